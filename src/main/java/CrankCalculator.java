@@ -59,7 +59,9 @@ public final class CrankCalculator {
         }
         machine.copyFrom(scratch);
         history.forgetAll();
-        Arrays.fill(isSaved, false);
+        for (int slot = 0; slot < SLOTS; slot++) {
+            isSaved[slot] = false;
+        }
         return machine.wheelCount;
     }
 
@@ -872,8 +874,10 @@ public final class CrankCalculator {
             lost = 0;
             ripple = 0;
             longestRipple = 0;
-            Arrays.fill(levers, false);
-            Arrays.fill(moved, 0);
+            for (int wheel = 0; wheel < Machine.MOST_WHEELS; wheel++) {
+                levers[wheel] = false;
+                moved[wheel] = 0;
+            }
         }
 
         void copyFrom(OpenTurn other) {
@@ -887,8 +891,10 @@ public final class CrankCalculator {
             lost = other.lost;
             ripple = other.ripple;
             longestRipple = other.longestRipple;
-            System.arraycopy(other.levers, 0, levers, 0, Machine.MOST_WHEELS);
-            System.arraycopy(other.moved, 0, moved, 0, Machine.MOST_WHEELS);
+            for (int wheel = 0; wheel < Machine.MOST_WHEELS; wheel++) {
+                levers[wheel] = other.levers[wheel];
+                moved[wheel] = other.moved[wheel];
+            }
         }
 
         void addCarry() {
@@ -1210,7 +1216,9 @@ public final class CrankCalculator {
 
         boolean readInto(Machine plan) {
             plan.makeNew();
-            Arrays.fill(isTold, false);
+            for (int kind = 0; kind < KINDS; kind++) {
+                isTold[kind] = false;
+            }
             tokens.begin();
             for (int i = 0; i < Input.CAPACITY && !tokens.isAtEnd(); i++) {
                 if (!readStatement(plan)) {
@@ -1364,8 +1372,6 @@ public final class CrankCalculator {
                 return tokens.fail(Tokens.LIMIT);
             }
             kinds[size] = kind;
-            numbers[size] = 0;
-            isShort[size] = false;
             tokens.advance();
             if (kind == CLEAR) {
                 readPart();

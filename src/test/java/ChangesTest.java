@@ -11,6 +11,7 @@ public final class ChangesTest {
         save();
         restore();
         restoreJam();
+        restoreJamOfOtherWay();
         eachChangeIsUndone();
         otherCallsAreNoChanges();
         undoTwelve();
@@ -101,6 +102,26 @@ public final class ChangesTest {
         Check.dueText("49 jammed", later, Check.portrait(x));
         Check.due("17", 1, x::free);
         Check.due("25", 1110, x::result);
+    }
+
+    private static void restoreJamOfOtherWay() {
+        CrankCalculator x = Check.made("pins 3; wheels 5; stuck 2;");
+        x.setPins(123);
+        x.turn(-1);
+        x.save(0);
+        x.crankBack();
+        x.setPins(456);
+        x.turn(1);
+        Check.due("30 forward", 1, () -> x.jam(2));
+        x.restore(0);
+        Check.due("30 back", -1, () -> x.jam(2));
+        Check.due("17", 1, x::free);
+        Check.due("25", 100000 - 123, x::result);
+        x.undo();
+        x.undo();
+        Check.due("30 forward", 1, () -> x.jam(2));
+        Check.due("16", 2, x::crankBack);
+        Check.due("25", 0, x::result);
     }
 
     private static void undone(String call, CrankCalculator x, Consumer<CrankCalculator> change) {

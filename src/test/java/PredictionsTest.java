@@ -11,6 +11,7 @@ public final class PredictionsTest {
         dueResult();
         wrongResult();
         unfinishedTurn();
+        mostWheels();
         error();
         residue();
         resultAfter();
@@ -153,6 +154,25 @@ public final class PredictionsTest {
         y.setPins(1);
         y.turn(1);
         Check.isTrue("37 nothing moved yet", y::isRight);
+    }
+
+    private static void mostWheels() {
+        CrankCalculator x = Check.made("pins 8; wheels 16; slip 7; slip 14;");
+        x.setPins(99999999);
+        x.shift(8);
+        x.turn(1);
+        Check.due("32 the lowest", 8, x::busiest);
+        Check.due("38", -1, x::firstWrong);
+        Check.due("39", 0, x::wrongDigits);
+        Check.due("41", 0, x::residue);
+        x.setPins(20000000);
+        x.turn(1);
+        Check.due("32 the highest wheel", 15, x::busiest);
+        x.setPins(5000000);
+        x.turn(1);
+        Check.due("38 the highest wheel", 15, x::firstWrong);
+        Check.due("39", 1, x::wrongDigits);
+        Check.due("41", (1 + 4 + 6 * 9) % 9, x::residue);
     }
 
     private static void error() {

@@ -13,6 +13,7 @@ public final class TextsTest {
         truncate();
         setup();
         setupReplacesAll();
+        setupBehindPredictions();
         setupErrors();
         tokens();
         script();
@@ -157,6 +158,26 @@ public final class TextsTest {
         Check.dueText("4 makes it new", Check.portrait(new CrankCalculator()), Check.portrait(x));
     }
 
+    /** What was predicted before must not be left in the new machine. */
+    private static void setupBehindPredictions() {
+        CrankCalculator x = Check.made("pins 3; wheels 9; counter 6; reach 2; slip 1; stuck 8;");
+        x.setPins(987);
+        x.turn(9);
+        x.shift(2);
+        x.turn(1);
+        x.shift(2);
+        x.resultAfter(99);
+        Check.due("4", 8, x::setup);
+        Check.dueText("4 makes it new", Check.portrait(new CrankCalculator()), Check.portrait(x));
+        Check.due("10 of the new one", 5, () -> x.turn(5));
+        Check.due("33 of the new one", 0, () -> x.logged(4, 2));
+        x.setPins(5);
+        x.turn(2);
+        x.movedBy(true);
+        Check.due("4", 8, () -> Check.setup(x, "stuck 3;"));
+        Check.dueText("4 makes it new", Check.portrait(Check.made("stuck 3;")), Check.portrait(x));
+    }
+
     private static void setupError(String text, int code, int position) {
         CrankCalculator x = new CrankCalculator();
         Check.due("4 \"" + text + "\"", -1, () -> Check.setup(x, text));
@@ -201,6 +222,11 @@ public final class TextsTest {
         setupError("3;", 1, 0);
         setupError("pin 3;", 1, 0);
         setupError("pinss 3;", 1, 0);
+        setupError("pinsz 3;", 1, 0);
+        setupError("apins 3;", 1, 0);
+        for (String ending : new String[] {"ins", "heels", "ounter", "each", "lip", "tuck"}) {
+            setupError("x" + ending + " 3;", 1, 0);
+        }
         setupError("Pins 3;", 1, 0);
         setupError("set 3;", 1, 0);
         setupError("pins -3;", 1, 5);
@@ -351,6 +377,13 @@ public final class TextsTest {
         scriptError("turn 1 short;", 1, 7);
         scriptError("turn -", 1, 6);
         scriptError("set 1; sett 2;", 1, 7);
+        for (String ending : new String[] {"et 1", "urn 1", "hift 1", "lear", "imes 1", "ivide"}) {
+            scriptError("x" + ending + ";", 1, 0);
+        }
+        for (String ending : new String[] {"esult", "ounter", "ins"}) {
+            scriptError("clear x" + ending + ";", 1, 6);
+        }
+        scriptError("times 1 xhort;", 1, 8);
         scriptError("set 1; setsetset 2;", 1, 7);
         scriptError("set 000000001;", 1, 4);
         scriptError("clear resultat;", 1, 6);

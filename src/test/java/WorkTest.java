@@ -26,7 +26,9 @@ public final class WorkTest {
         transfer();
         crankBack();
         crankBackOfCarries();
+        crankBackBehindCarries();
         crankBackFreed();
+        crankBackOfMostWheels();
         free();
         damage();
         repair();
@@ -615,6 +617,31 @@ public final class WorkTest {
         Check.due("31", 5 + 5 + 5, () -> x.steps(0));
         Check.due("31", 5 + 6 + 6, () -> x.steps(1));
         Check.due("31", 5 + 5 + 5, () -> x.steps(2));
+    }
+
+    /** The carries of earlier turns are not taken back. */
+    private static void crankBackBehindCarries() {
+        CrankCalculator x = Check.made("pins 3; wheels 6; slip 2;");
+        x.setPins(555);
+        x.turn(2);
+        Check.due("21 carries", 2, () -> x.count(3));
+        Check.due("21 lost", 1, () -> x.count(4));
+        x.damage(1, 2);
+        Check.due("10", 0, () -> x.turn(1));
+        Check.due("16", 1, x::crankBack);
+        Check.due("21 carries", 2, () -> x.count(3));
+        Check.due("21 lost", 1, () -> x.count(4));
+        Check.due("25", 110, x::result);
+    }
+
+    private static void crankBackOfMostWheels() {
+        CrankCalculator x = Check.made("pins 8; wheels 16; stuck 15;");
+        x.shift(8);
+        x.setPins(11111111);
+        Check.due("10", 0, () -> x.turn(-1));
+        Check.due("16", 7, x::crankBack);
+        Check.due("25", 0, x::result);
+        Check.due("31", 18 - 16, () -> x.steps(14));
     }
 
     private static void crankBackFreed() {
