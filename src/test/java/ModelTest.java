@@ -1,4 +1,5 @@
 import java.nio.charset.StandardCharsets;
+import java.util.Arrays;
 import java.util.Random;
 import java.util.function.LongSupplier;
 
@@ -258,7 +259,7 @@ public final class ModelTest {
     private void text(String text) {
         byte[] bytes = text.getBytes(StandardCharsets.ISO_8859_1);
         byte[] padded = new byte[(bytes.length + 19) / 20 * 20];
-        java.util.Arrays.fill(padded, (byte) 10);
+        Arrays.fill(padded, (byte) 10);
         System.arraycopy(bytes, 0, padded, 0, bytes.length);
         run.append("  text \"").append(text).append("\"\n");
         for (int at = 0; at < padded.length; at += 20) {

@@ -1,3 +1,5 @@
+import java.util.function.LongSupplier;
+
 /** Promises 8 to 19: working with the machine. */
 public final class WorkTest {
     private static final Class<IllegalStateException> STATE = IllegalStateException.class;
@@ -45,7 +47,7 @@ public final class WorkTest {
     }
 
     private static void throwsAndChangesNothing(CrankCalculator x, String call,
-            Class<? extends RuntimeException> want, java.util.function.LongSupplier answer) {
+            Class<? extends RuntimeException> want, LongSupplier answer) {
         String before = Check.portrait(x);
         int changes = x.changeCount();
         Check.dueThrow(call, want, answer);
