@@ -6,11 +6,21 @@ import java.util.function.IntSupplier;
 import java.util.function.LongSupplier;
 
 /** What the tests share: it prints each answer that is not the one that is due. */
-final class Check {
+class Check {
     private static int wrong = 0;
     private static int asked = 0;
+    private static String told = "";
 
-    private Check() {
+    Check() {
+    }
+
+    /** What is asked from now on belongs to this sentence of the document, "" for none. */
+    static void tellAhead(String sentence) {
+        told = sentence;
+    }
+
+    static int asked() {
+        return asked;
     }
 
     static void due(String call, long want, LongSupplier answer) {
@@ -66,7 +76,7 @@ final class Check {
     static void tell(String words) {
         wrong++;
         if (wrong <= 50) {
-            System.out.println(words);
+            System.out.println(told + words);
         }
     }
 
@@ -153,6 +163,26 @@ final class Check {
             }
         }
         return text.toString();
+    }
+
+    /** The portrait, and all else that can be asked: the error report, the changes and the text shown. */
+    static String whole(CrankCalculator x) {
+        StringBuilder text = new StringBuilder(portrait(x));
+        text.append(" e").append(x.errorCode()).append(' ').append(x.errorPosition());
+        text.append(" c").append(x.changeCount()).append(" t");
+        for (int index = 0; isWritten(x, index); index++) {
+            text.append((char) x.textByte(index));
+        }
+        return text.toString();
+    }
+
+    private static boolean isWritten(CrankCalculator x, int index) {
+        try {
+            x.textByte(index);
+            return true;
+        } catch (NoSuchElementException e) {
+            return false;
+        }
     }
 
     private static IntSupplier jam(CrankCalculator x, int what) {
